@@ -1,6 +1,9 @@
 import java.util.Random;
 
-/** Promise 15: the books of broken(), kept here from outside over many programs by chance. */
+/**
+ * Promise 15: the books of broken(), kept here from outside over many programs by chance.
+ * That takes more than 512 looks at one object, of which the class makes nothing.
+ */
 public final class BrokenTest {
     private static final int PROGRAMS = 400;
     private static final long DEVICE = 0x10000000L;
@@ -41,30 +44,42 @@ public final class BrokenTest {
         }
     }
 
+    /** Compartment 0 goes on for ever, calling those whose code is by chance. */
     private static Image image(Random chance) {
         Image image = new Image();
-        int parts = 1 + chance.nextInt(3);
+        int parts = 2 + chance.nextInt(2);
         for (int c = 0; c < parts; c++) {
-            Image.Part part = image.part(chance.nextInt(5)).export(0, 1 + chance.nextInt(3))
-                .export(0, 1).services();
-            part.grant(Image.EXPORT, chance.nextInt(parts), 0)
-                .grant(Image.EXPORT, chance.nextInt(parts), 1)
+            image.part(4).export(0, c == 0 ? 1 : 1 + chance.nextInt(3)).export(0, 1).services()
+                .grant(Image.EXPORT, 1 + chance.nextInt(parts - 1), 0)
+                .grant(Image.EXPORT, 1 + chance.nextInt(parts - 1), 1)
                 .grant(Image.DEVICE, 1 + chance.nextInt(3), 0)
                 .grant(Image.SEAL, chance.nextInt(240), 1 + chance.nextInt(16))
-                .grant(Image.GLOBALS, chance.nextInt(parts), new int[] {27, 1, 3, 25}[chance.nextInt(4)]);
-            part.code(code(chance));
+                .grant(Image.GLOBALS, chance.nextInt(parts), new int[] {27, 1, 3, 25}[chance.nextInt(4)])
+                .code(c == 0 ? driver(chance) : code(chance));
         }
         int threads = 1 + chance.nextInt(4);
         for (int t = 0; t < threads; t++) {
-            image.thread(chance.nextInt(parts), chance.nextInt(2), chance.nextInt(3),
-                1 + chance.nextInt(6), chance.nextInt(6));
+            image.thread(0, chance.nextInt(2), chance.nextInt(3), 1 + chance.nextInt(6),
+                1 + chance.nextInt(6));
         }
         return image;
     }
 
+    private static Code driver(Random chance) {
+        Code code = new Code();
+        while (code.here() < 120) {
+            code.number(10, 16 << chance.nextInt(6)).go(0).put(Asm.copy(8 + chance.nextInt(2), 10))
+                .put(Asm.storeCap(3, 10, 16 * chance.nextInt(4))).take(12 + chance.nextInt(4), 11 + chance.nextInt(3))
+                .go(9 + chance.nextInt(2)).put(Asm.copy(10, 8 + chance.nextInt(2)))
+                .go(chance.nextInt(3) == 0 ? 9 : 1).put(Asm.addi(10, 0, chance.nextInt(20)))
+                .go(new int[] {2, 3, 6, 7}[chance.nextInt(4)]);
+        }
+        return code.put(Asm.jal(0, -4 * code.here()));
+    }
+
     private static Code code(Random chance) {
         Code code = new Code();
-        while (code.here() < 150) {
+        while (code.here() < 60) {
             int d = chance.nextInt(16);
             int a = chance.nextInt(16);
             int b = chance.nextInt(16);
