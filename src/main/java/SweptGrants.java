@@ -360,7 +360,9 @@ public final class SweptGrants {
         /** Both ends are multiples of 16. */
         void erase(int from, int behind) {
             if (from >= 0 && from <= behind && behind <= bytes.length) {
-                Arrays.fill(bytes, from, behind, (byte) 0);
+                for (int i = from; i < behind; i++) {
+                    bytes[i] = 0;
+                }
                 for (int g = from / GRANULE; g < behind / GRANULE && g < marks.length; g++) {
                     marks[g] &= ~TAGGED;
                 }
@@ -1268,7 +1270,8 @@ public final class SweptGrants {
                 }
                 for (int k = 0; k < part.imports; k++) {
                     makeImport(world, part.importsText + k * IMPORT_TEXT);
-                    world.store.writeCap(part.importsAt + k * GRANULE, world.scratch, true);
+                    world.store.writeCap(part.importsAt + k * GRANULE, world.scratch,
+                        world.scratch.tagged);
                 }
             }
             for (int i = 0; i < tasks && i < MOST_THREADS; i++) {

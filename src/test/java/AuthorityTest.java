@@ -205,6 +205,10 @@ public final class AuthorityTest {
         top = m.thread(0, 7) / 16 + 4;
         Check.due("stack without LOCAL", m.tag(top - 1), 0);
         Check.due("GLOBAL by it", m.tag(top - 2), 1);
+        m = Image.alone(new Code().put(Asm.addi(5, 0, Asm.WRITE | Asm.GIVE | Asm.LOCAL),
+            Asm.derive(3, 4, 2, 5), Asm.storeCap(4, 2, -16)));
+        m.run(3);
+        Check.due("stack without READ", m.tag(m.thread(0, 7) / 16 + 3), 1);
     }
 
     private static void ownFaults() {
@@ -221,6 +225,11 @@ public final class AuthorityTest {
         Check.due("first word once more", m.thread(0, 4), 0);
         m.run(1);
         Check.due("behind PCC", m.thread(0, 4), BOUNDS);
+        m = Image.alone(new Code().put(Asm.addi(5, 0, Asm.RUN), Asm.auipc(4, 0),
+            Asm.derive(3, 4, 4, 5), Asm.jalr(0, 4, 12), Asm.addi(6, 0, 8)));
+        m.run(5);
+        Check.due("RUN alone", m.register(0, 6, 0), 8);
+        Check.due("perms of PCC", m.register(0, 16, 3), Asm.RUN);
     }
 
     private static void faultChangesNothing() {

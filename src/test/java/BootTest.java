@@ -24,6 +24,7 @@ public final class BootTest {
         refused();
         allBeginsAnew();
         order();
+        nothingIsLeft();
         Check.end();
     }
 
@@ -92,6 +93,10 @@ public final class BootTest {
         for (int[] one : cases) {
             fails(one[1] + " at " + one[0], with(one[0], one[1]), 0, -1);
         }
+        Image closed = new Image();
+        closed.part(0);
+        closed.part(0).export(0, 1);
+        fails("no exports", closed.thread(1, 0, 0, 1, 0).bytes(), 0, -1);
         Image most = new Image();
         for (int i = 0; i < 8; i++) {
             most.part(0).export(0, 1);
@@ -123,6 +128,10 @@ public final class BootTest {
         fails("globals of 1", with(FIRST_IMPORT + 13, 1), 3, FIRST_IMPORT + 13);
         fails("thread of 1", with(THREAD, 1), 3, THREAD);
         fails("thread at export 1", with(THREAD + 1, 1), 3, THREAD + 1);
+        fails("globals of 255", with(FIRST_IMPORT + 13, 255), 3, FIRST_IMPORT + 13);
+        fails("thread of 255", with(THREAD, 255), 3, THREAD);
+        fails("thread at export 255", with(THREAD + 1, 255), 3, THREAD + 1);
+        fails("thread of 8", with(THREAD, 8), 3, THREAD);
         Image later = new Image();
         later.part(0).export(0, 1).grant(Image.EXPORT, 1, 2).grant(Image.GLOBALS, 1, 1);
         later.part(3).export(0, 1).export(0, 1).export(0, 1);
@@ -210,6 +219,7 @@ public final class BootTest {
         Check.due("input", y.input(1), false);
         Check.due("memory", y.memory(0, 1), -1);
         Check.due("thread", y.thread(0, 0), -1);
+        Check.due("compartment", y.compartment(0, 0), -1);
         Check.due("boot", Image.boot(y, image()), 0);
         Check.due("place", y.place(), -1);
         Check.due("run", y.run(4), 4);
@@ -237,5 +247,83 @@ public final class BootTest {
         bytes = with(MODE, 0);
         bytes[ENTRY] = 7;
         fails("the first of 2", bytes, 2, ENTRY);
+    }
+
+    /** Threads that sleep, wait and ended, open frames, quarantine, and a sweep under way. */
+    private static Image busy() {
+        Image image = new Image();
+        Code code = new Code().number(10, 600).go(0).put(Asm.copy(8, 10), Asm.storeCap(3, 10, 0),
+            Asm.storeCap(10, 3, 16)).number(10, 40).go(0).put(Asm.copy(10, 8)).go(1).go(9);
+        int sleeps = code.here();
+        code.number(10, 900).go(3).put(0);
+        int waits = code.here();
+        code.put(Asm.copy(10, 3)).number(12, 800).go(4).put(0);
+        int fails = code.here();
+        code.put(0);
+        image.part(2).services().grant(Image.EXPORT, 1, 0).grant(Image.DEVICE, 3, 0)
+            .export(0, 1).export(sleeps, 1).export(waits, 1).export(fails, 1).code(code);
+        image.part(3).grant(Image.EXPORT, 2, 0).export(0, 2).code(new Code().go(0));
+        image.part(1).grant(Image.GLOBALS, 0, 1).export(0, 1).code(new Code().put(Asm.jal(0, 0)));
+        return image.thread(0, 3, 7, 1, 0).thread(0, 2, 6, 2, 0).thread(0, 1, 5, 1, 0)
+            .thread(0, 0, 4, 3, 4).thread(0, 0, 3, 1, 1).thread(2, 0, 2, 1, 1);
+    }
+
+    /** A used object that boots is like a new one, then and behind many steps. */
+    private static void nothingIsLeft() {
+        Image small = new Image();
+        small.part(2).services().export(0, 3).code(new Code().number(10, 100).go(0).put(Asm.copy(8, 10))
+            .number(10, 5).go(3).put(Asm.copy(10, 8)).go(1).go(6).number(10, 60).go(0)
+            .put(Asm.jal(0, 0)));
+        small.thread(0, 0, 0, 2, 1);
+        for (Image next : new Image[] {small, busy()}) {
+            for (int steps : new int[] {0, 7, 25, 33, 45, 60}) {
+                SweptGrants used = busy().boot(2);
+                SweptGrants fresh = next.boot(2);
+                used.input(7);
+                used.run(steps);
+                Check.due("boot", Image.boot(used, next.bytes()), 0);
+                alike("at once", used, fresh);
+                for (int i = 0; i < 12; i++) {
+                    Check.due("run", used.run(5), fresh.run(5));
+                    alike("behind " + 5 * (i + 1), used, fresh);
+                }
+            }
+        }
+        SweptGrants used = busy().boot(2);
+        used.run(60);
+        Check.due("calls", used.count(3) > 1, true);
+        Check.due("faults", used.count(2), 1);
+        Check.due("frames", used.thread(3, 2) > 1, true);
+        Check.due("sweep under way", used.heap(6) > 0, true);
+        Check.due("waits", used.thread(1, 0), 2);
+        Check.due("sleeps", used.thread(2, 0), 1);
+    }
+
+    private static void alike(String name, SweptGrants a, SweptGrants b) {
+        long left = 0;
+        long right = 0;
+        for (int what = 0; what < 16; what++) {
+            left = left * 31 + a.count(what) * 7L + a.heap(what);
+            right = right * 31 + b.count(what) * 7L + b.heap(what);
+            for (int t = 0; t < 6; t++) {
+                left = left * 31 + a.thread(t, what);
+                right = right * 31 + b.thread(t, what);
+                for (int k = 0; k <= 16; k++) {
+                    left = left * 31 + a.register(t, k, what);
+                    right = right * 31 + b.register(t, k, what);
+                }
+                left = left * 31 + a.compartment(t, what);
+                right = right * 31 + b.compartment(t, what);
+            }
+        }
+        for (int g = 0; g < 128; g++) {
+            left = left * 31 + a.tag(g);
+            right = right * 31 + b.tag(g);
+            for (int i = 0; i < 4; i++) {
+                left = left * 31 + a.memory(16 * g + 4 * i, 4);
+                right = right * 31 + b.memory(16 * g + 4 * i, 4);
+            }
+        }
+        Check.due(name + ": all that can be seen", left, right);
     }
 }

@@ -17,6 +17,8 @@ public final class CallTest {
         linkBeforeCall();
         returnIsNoSecret();
         callInsideItself();
+        thereAndBack();
+        allFramesBack();
         Check.end();
     }
 
@@ -342,5 +344,48 @@ public final class CallTest {
         m.run(2);
         Check.due("back", m.register(0, 16, 0), 12);
         is("answer", m, 10, 1);
+    }
+
+    /** Compartment 0 calls 1, that calls 2: each return goes to the one that called. */
+    private static void thereAndBack() {
+        Image image = new Image();
+        image.part(0).export(0, 1).grant(Image.EXPORT, 1, 0).code(new Code().go(0).put(Asm.jal(0, 0)));
+        image.part(0).export(0, 2).grant(Image.EXPORT, 2, 0).code(new Code().put(Asm.copy(8, 1)).go(0)
+            .put(Asm.jalr(0, 8, 0)));
+        image.part(0).export(0, 3).code(new Code().back());
+        SweptGrants m = image.thread(0, 0, 0, 1, 2).boot(1);
+        int[] steps = {3, 4, 1, 1};
+        int[] compartments = {1, 2, 1, 0};
+        int[] frames = {1, 2, 1, 0};
+        int[] interrupts = {0, 1, 0, 1};
+        for (int i = 0; i < steps.length; i++) {
+            m.run(steps[i]);
+            Check.due("compartment", m.thread(0, 1), compartments[i]);
+            Check.due("frames", m.thread(0, 2), frames[i]);
+            Check.due("interrupts", m.thread(0, 3), interrupts[i]);
+            Check.due("base of PCC", m.register(0, 16, 1), m.compartment(compartments[i], 0));
+        }
+        Check.due("cursor", m.register(0, 16, 0), 12);
+    }
+
+    /** Sixteen frames, each with its number in c9, all given back by faults. */
+    private static void allFramesBack() {
+        Image image = new Image();
+        image.part(0).export(0, 1).grant(Image.EXPORT, 0, 0).code(new Code()
+            .put(Asm.addi(9, 10, 1), Asm.copy(10, 9)).go(0).put(0));
+        SweptGrants m = image.thread(0, 0, 0, 1, 16).boot(1);
+        m.run(5 * 17);
+        Check.due("frames", m.thread(0, 2), 16);
+        Check.due("calls", m.count(3), 16);
+        is("c9", m, 9, 17);
+        for (int left = 15; left >= 0; left--) {
+            m.run(1);
+            Check.due("frames", m.thread(0, 2), left);
+            is("c9", m, 9, left + 1);
+            is("c11", m, 11, 6);
+        }
+        m.run(1);
+        Check.due("ended", m.thread(0, 0), 3);
+        Check.due("faults", m.count(2), 17);
     }
 }

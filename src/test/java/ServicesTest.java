@@ -209,6 +209,9 @@ public final class ServicesTest {
         is("yield", m, 0, 10, 0, 0, 0, 0, 0, 0);
         Check.due("no current one", m.count(1), -1);
         Check.due("state", m.thread(0, 0), 0);
+        m = after(new Code().number(10, 7).go(6));
+        is("sweep", m, 0, 10, 0, 0, 0, 0, 0, 0);
+        Check.due("current", m.count(1), 0);
     }
 
     private static void sleep() {
@@ -334,21 +337,31 @@ public final class ServicesTest {
         for (int t = 0; t < 4; t++) {
             Check.due("greatest priority " + t, m.thread(t, 0), due[t]);
         }
-        Image like = new Image();
-        Code code = new Code().put(Asm.addi(10, 0, 3)).go(3);
-        int first = code.here();
+        int[][] cases = {{0, 5, 1, 5, 1}, {1, 5, 0, 5, 0}, {0, 5, 1, 4, 0}, {1, 4, 0, 5, 1},
+            {1, 5, 0, 4, 0}, {0, 4, 1, 5, 1}};
+        for (int[] one : cases) {
+            wakesOne(one[0], one[1], one[2], one[3], one[4]);
+        }
+    }
+
+    /** Two threads by export and priority; that of export 0 begins to wait later. */
+    private static void wakesOne(int e0, int p0, int e1, int p1, int due) {
+        Code code = new Code().put(Asm.addi(10, 0, 7)).go(3);
+        int early = code.here();
         code.put(Asm.copy(10, 3)).number(12, 1000).go(4).put(Asm.jal(0, 0));
         int waker = code.here();
-        code.number(11, 1).put(Asm.copy(10, 3)).go(5).put(Asm.jal(0, 0));
-        like.part(1).services().export(0, 1).export(first, 1).export(waker, 1).code(code);
-        m = like.thread(0, 0, 5, 1, 0).thread(0, 1, 5, 1, 0).thread(0, 2, 1, 1, 0).boot(2);
-        m.run(16);
+        code.number(10, 40).go(3).number(11, 1).put(Asm.copy(10, 3)).go(5).put(Asm.jal(0, 0));
+        Image image = new Image();
+        image.part(1).services().export(0, 1).export(early, 1).export(waker, 1).code(code);
+        SweptGrants m = image.thread(0, e0, p0, 1, 0).thread(0, e1, p1, 1, 0).thread(0, 2, 1, 1, 0)
+            .boot(2);
+        m.run(30);
         Check.due("waits", m.thread(0, 0), 2);
         Check.due("waits", m.thread(1, 0), 2);
-        Check.due("later", m.thread(0, 6) > m.thread(1, 6), true);
-        m.run(6);
-        Check.due("still waits", m.thread(0, 0), 2);
-        Check.due("who waits longest", m.thread(1, 0), 0);
+        Check.due("later", m.thread(e0, 6) > m.thread(1 - e0, 6), true);
+        m.run(40);
+        Check.due("who is woken", m.thread(due, 0), 0);
+        Check.due("still waits", m.thread(1 - due, 0), 2);
         is("how many", m, 2, 10, 1);
     }
 

@@ -15,6 +15,8 @@ public final class SweepTest {
         allocInTheLastStep();
         allocOfMany();
         allocInVain();
+        noSleepWithoutNeed();
+        lastObjectIsErased();
         Check.end();
     }
 
@@ -189,15 +191,21 @@ public final class SweepTest {
         for (int globals = 0; globals < 8; globals++) {
             Image image = new Image();
             image.part(globals).export(0, 1).grant(Image.SERVICE, 0, 0).grant(Image.SERVICE, 1, 0)
-                .grant(Image.SEAL, 232, 8).code(new Code().number(10, 16).go(0).put(Asm.copy(8, 10))
-                .take(9, 2).put(Asm.copy(10, 8)).go(1).put(Asm.jal(0, 0)));
-            SweptGrants m = image.thread(0, 0, 0, 1, 0).boot(1);
+                .grant(Image.SEAL, 232, 8).grant(Image.SERVICE, 6, 0).code(new Code().number(10, 16).go(0).put(Asm.copy(8, 10))
+                .take(9, 2).put(Asm.storeCap(2, 9, -16), Asm.storeCap(2, 8, -32),
+                Asm.copy(10, 8)).go(1).go(3).put(Asm.jal(0, 0)));
+            SweptGrants m = image.thread(0, 0, 0, 2, 0).boot(1);
             if (m.heap(0) == 240) {
-                m.run(12);
+                m.run(14);
                 Check.due("base of the object", m.register(0, 8, 1), 240);
                 Check.due("its tag", m.register(0, 8, 5), 0);
                 Check.due("base of the SEAL", m.register(0, 9, 1), 240);
                 Check.due("its tag", m.register(0, 9, 5), 1);
+                m.run(20);
+                Check.due("sweeps", m.heap(5), 1);
+                Check.due("the SEAL's tag in memory", m.tag(m.thread(0, 7) / 16 + 1), 1);
+                Check.due("the object's tag in memory", m.tag(m.thread(0, 7) / 16), 0);
+                Check.due("the SEAL's tag", m.register(0, 9, 5), 1);
                 return;
             }
         }
@@ -420,5 +428,40 @@ public final class SweepTest {
         for (int what = 0; what < 6; what++) {
             Check.due("NULL", m.register(0, 10, what), 0);
         }
+    }
+
+    /** Something is in quarantine, but there is room, or no number of bytes that could be. */
+    private static void noSleepWithoutNeed() {
+        int heap = wholeHeap(17);
+        for (int bytes : new int[] {0, 1, 64, heap + 1, -1}) {
+            Code code = new Code().number(10, 16).go(0).put(Asm.copy(8, 10)).go(1)
+                .number(10, bytes).go(0).put(Asm.addi(6, 0, 1), Asm.jal(0, 0), 0);
+            SweptGrants m = served(code, 1);
+            m.run(14);
+            Check.due("ready", m.thread(0, 0), 0);
+            Check.due("no sweep", m.heap(6), -1);
+            Check.due("tag", m.register(0, 10, 5), bytes > 0 && bytes <= 64 ? 1 : 0);
+            Check.due("behind the quarantine", m.register(0, 10, 1),
+                bytes > 0 && bytes <= 64 ? m.heap(0) + 16 : 0);
+            m.run(1);
+            Check.due("goes on", m.register(0, 6, 0), 1);
+        }
+    }
+
+    /** The object that ends where memory ends is freed, swept and given again. */
+    private static void lastObjectIsErased() {
+        int heap = wholeHeap(19);
+        Code code = new Code().number(10, heap).go(0).put(Asm.copy(8, 10))
+            .number(6, heap).put(Asm.derive(0, 7, 8, 6), Asm.storeCap(7, 3, -16)).go(1)
+            .number(10, heap).go(0).put(Asm.jal(0, 0));
+        SweptGrants m = served(code, 1);
+        m.run(13);
+        Check.due("tag of the last granule", m.tag(63), 3);
+        Check.due("its bytes", m.memory(1008, 4), m.compartment(0, 2));
+        m.run(40);
+        Check.due("sweeps", m.heap(5), 1);
+        Check.due("given again", m.heap(2), heap);
+        Check.due("tag of the last granule", m.tag(63), 0);
+        Check.due("its bytes", m.memory(1008, 4), 0);
     }
 }
