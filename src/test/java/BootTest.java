@@ -275,17 +275,13 @@ public final class BootTest {
             .number(10, 5).go(3).put(Asm.copy(10, 8)).go(1).go(6).number(10, 60).go(0)
             .put(Asm.jal(0, 0)));
         small.thread(0, 0, 0, 2, 1);
-        for (Image next : new Image[] {small, busy()}) {
-            for (int steps : new int[] {0, 7, 25, 33, 45, 60}) {
-                SweptGrants used = busy().boot(2);
-                SweptGrants fresh = next.boot(2);
-                used.input(7);
-                used.run(steps);
-                Check.due("boot", Image.boot(used, next.bytes()), 0);
-                alike("at once", used, fresh);
-                for (int i = 0; i < 12; i++) {
-                    Check.due("run", used.run(5), fresh.run(5));
-                    alike("behind " + 5 * (i + 1), used, fresh);
+        Image pair = new Image();
+        pair.part(0).export(0, 1).code(new Code().put(Asm.jal(0, 0)));
+        pair.thread(0, 0, 0, 1, 0).thread(0, 0, 0, 1, 0);
+        for (Image first : new Image[] {busy(), pair}) {
+            for (Image next : new Image[] {small, busy(), pair}) {
+                for (int steps : new int[] {0, 7, 25, 33, 45, 60, 200}) {
+                    bootsAsNew(first, next, steps);
                 }
             }
         }
@@ -297,6 +293,21 @@ public final class BootTest {
         Check.due("sweep under way", used.heap(6) > 0, true);
         Check.due("waits", used.thread(1, 0), 2);
         Check.due("sleeps", used.thread(2, 0), 1);
+        used.run(140);
+        Check.due("sweeps", used.heap(5), 1);
+    }
+
+    private static void bootsAsNew(Image first, Image next, int steps) {
+        SweptGrants used = first.boot(2);
+        SweptGrants fresh = next.boot(2);
+        used.input(7);
+        used.run(steps);
+        Check.due("boot", Image.boot(used, next.bytes()), 0);
+        alike("at once", used, fresh);
+        for (int i = 0; i < 12; i++) {
+            Check.due("run", used.run(5), fresh.run(5));
+            alike("behind " + 5 * (i + 1), used, fresh);
+        }
     }
 
     private static void alike(String name, SweptGrants a, SweptGrants b) {

@@ -327,14 +327,14 @@ public final class ServicesTest {
         }
     }
 
-    /** Threads 0 .. 3 wait in the order 3, 1, 0, 2 (by their priorities); of like ones the longest. */
+    /** Thread 4 wakes one of five: the greatest priority goes first, of like ones the longest. */
     private static void wakeOrder() {
         Image image = waiters(1, 0);
         SweptGrants m = image.thread(0, 0, 4, 1, 0).thread(0, 0, 5, 1, 0).thread(0, 0, 3, 1, 0)
-            .thread(0, 0, 6, 1, 0).thread(0, 1, 1, 1, 0).boot(4);
-        m.run(24 + 6);
-        int[] due = {2, 2, 2, 0};
-        for (int t = 0; t < 4; t++) {
+            .thread(0, 0, 6, 1, 0).thread(0, 1, 1, 1, 0).thread(0, 0, 2, 1, 0).boot(4);
+        m.run(30 + 6);
+        int[] due = {2, 2, 2, 0, 0, 2};
+        for (int t = 0; t < due.length; t++) {
             Check.due("greatest priority " + t, m.thread(t, 0), due[t]);
         }
         int[][] cases = {{0, 5, 1, 5, 1}, {1, 5, 0, 5, 0}, {0, 5, 1, 4, 0}, {1, 4, 0, 5, 1},
