@@ -11,6 +11,8 @@ public final class AuthorityTest {
         storesClearTags();
         faultsInOrder();
         bounds();
+        farthestOffsets();
+        addressesWrap();
         capabilitiesInMemory();
         takeAndGive();
         localAndGlobal();
@@ -132,6 +134,37 @@ public final class AuthorityTest {
             Asm.derive(0, 4, 3, 5));
         fails("no places", BOUNDS, Asm.load(0, 6, 4, 0), Asm.narrow(4, 3, 0));
         fails("end of all", BOUNDS, Asm.load(0, 6, 4, 0), Asm.addi(5, 0, -1),
+            Asm.derive(1, 4, 3, 5));
+    }
+
+    /** I and S are -2048 .. 2047: the byte there is written by one and read by the other. */
+    private static void farthestOffsets() {
+        for (int offset : new int[] {-2048, -2047, -1, 0, 31, 32, 2046, 2047}) {
+            Code code = new Code().number(5, -offset).put(Asm.derive(0, 4, 3, 5), Asm.addi(6, 0, 99),
+                Asm.store(0, 4, 6, offset), Asm.load(4, 7, 4, offset));
+            SweptGrants m = Image.alone(code);
+            m.run(code.here());
+            Check.due("written at " + offset, m.memory(globals(m), 1), 99);
+            Check.due("read at " + offset, m.register(0, 7, 0), 99);
+        }
+    }
+
+    /** A cursor below 0 is far above all; with what is added it comes to the globals again. */
+    private static void addressesWrap() {
+        int globals = globals(Image.alone(new Code().put(0, 0, 0, 0, 0, 0)));
+        Code code = new Code().put(Asm.addi(5, 0, -4), Asm.derive(1, 4, 3, 5),
+            Asm.storeWord(4, 5, globals + 8), Asm.loadWord(6, 4, globals + 8),
+            Asm.load(1, 7, 4, globals + 10), Asm.loadWord(8, 4, 0));
+        SweptGrants m = Image.alone(code);
+        m.run(5);
+        Check.due("written", m.memory(globals + 4, 4), 0xFFFFFFFCL);
+        Check.due("read", m.register(0, 6, 0), 0xFFFFFFFCL);
+        Check.due("read", m.register(0, 7, 0), 0xFFFFFFFFL);
+        m.run(1);
+        Check.due("the last word of all", m.thread(0, 4), BOUNDS);
+        fails("over the end of all", BOUNDS, Asm.loadCap(6, 4, -16), Asm.addi(5, 0, 0),
+            Asm.derive(1, 4, 3, 5));
+        fails("a word over the end of all", BOUNDS, Asm.loadWord(6, 4, -2), Asm.addi(5, 0, 0),
             Asm.derive(1, 4, 3, 5));
     }
 

@@ -303,38 +303,10 @@ public final class BootTest {
         used.input(7);
         used.run(steps);
         Check.due("boot", Image.boot(used, next.bytes()), 0);
-        alike("at once", used, fresh);
+        Check.due("at once", Seen.all(used), Seen.all(fresh));
         for (int i = 0; i < 12; i++) {
             Check.due("run", used.run(5), fresh.run(5));
-            alike("behind " + 5 * (i + 1), used, fresh);
+            Check.due("behind " + 5 * (i + 1), Seen.all(used), Seen.all(fresh));
         }
-    }
-
-    private static void alike(String name, SweptGrants a, SweptGrants b) {
-        long left = 0;
-        long right = 0;
-        for (int what = 0; what < 16; what++) {
-            left = left * 31 + a.count(what) * 7L + a.heap(what);
-            right = right * 31 + b.count(what) * 7L + b.heap(what);
-            for (int t = 0; t < 6; t++) {
-                left = left * 31 + a.thread(t, what);
-                right = right * 31 + b.thread(t, what);
-                for (int k = 0; k <= 16; k++) {
-                    left = left * 31 + a.register(t, k, what);
-                    right = right * 31 + b.register(t, k, what);
-                }
-                left = left * 31 + a.compartment(t, what);
-                right = right * 31 + b.compartment(t, what);
-            }
-        }
-        for (int g = 0; g < 128; g++) {
-            left = left * 31 + a.tag(g);
-            right = right * 31 + b.tag(g);
-            for (int i = 0; i < 4; i++) {
-                left = left * 31 + a.memory(16 * g + 4 * i, 4);
-                right = right * 31 + b.memory(16 * g + 4 * i, 4);
-            }
-        }
-        Check.due(name + ": all that can be seen", left, right);
     }
 }

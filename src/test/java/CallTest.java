@@ -9,6 +9,7 @@ public final class CallTest {
         stackIsErased();
         stackFaults();
         stackOfCallee();
+        noStackLeft();
         framesFull();
         framesByNumber();
         interruptsOfExports();
@@ -204,6 +205,31 @@ public final class CallTest {
         m.run(4);
         Check.due("top is not what was given", m.thread(0, 4), 7);
         Check.due("back by the fault", m.thread(0, 1), 0);
+    }
+
+    /** The cursor is the stack's base: the callee's stack has no places, but it can call. */
+    private static void noStackLeft() {
+        Code caller = new Code().put(Asm.addi(6, 0, 7), Asm.storeWord(2, 6, -4), Asm.move(2, 2, -64))
+            .go(0).put(Asm.jal(0, 0));
+        Code callee = new Code().go(0).put(Asm.storeWord(2, 0, 0));
+        SweptGrants m = two(caller, callee, 2);
+        int stack = m.thread(0, 7);
+        m.run(6);
+        is("no places", m, 2, stack, stack, stack, Asm.STACK, 0, 1);
+        Check.due("from the cursor on all stays", m.memory(stack + 60, 4), 7);
+        m.run(3);
+        Check.due("calls", m.count(3), 2);
+        is("no places again", m, 2, stack, stack, stack, Asm.STACK, 0, 1);
+        m.run(3);
+        is("no frame is left", m, 11, 8, 0, 0, 0, 0, 0);
+        m.run(1);
+        Check.due("beyond its stack", m.thread(0, 4), 4);
+        Check.due("frames", m.thread(0, 2), 1);
+        m.run(1);
+        Check.due("beyond its stack", m.thread(0, 4), 4);
+        Check.due("back", m.thread(0, 1), 0);
+        is("as it was", m, 2, stack, stack, stack + 64, Asm.STACK, 0, 1);
+        Check.due("above the cursor all stays", m.memory(stack + 60, 4), 7);
     }
 
     private static void framesFull() {

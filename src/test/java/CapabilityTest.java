@@ -5,6 +5,7 @@ public final class CapabilityTest {
     public static void main(String[] args) {
         cursors();
         narrower();
+        upToTheLastWord();
         perms();
         sealing();
         unsealing();
@@ -79,6 +80,19 @@ public final class CapabilityTest {
         is("never wider", m, 7, globals + 4, globals + 4, globals + 64, Asm.DATA, 0, 0);
         m = after(new Code().put(Asm.inspect(9, 6, 3), Asm.narrow(6, 6, 16)));
         is("no tag", m, 6, globals, globals, globals + 16, Asm.DATA, 0, 0);
+    }
+
+    /** The top is 2^32 less 1, 2^32, which wraps to 0, and one more. */
+    private static void upToTheLastWord() {
+        for (int more = -1; more <= 1; more++) {
+            SweptGrants m = after(new Code().put(Asm.r(0x33, 0, 32, 5, 0, 3), Asm.addi(5, 5, more),
+                Asm.derive(2, 6, 3, 5)));
+            is("top " + more, m, 6, globals(m), globals(m), more & 0xFFFFFFFFL, Asm.DATA, 0, 0);
+        }
+        SweptGrants m = after(new Code().put(Asm.addi(4, 0, -1), Asm.addi(5, 0, 1),
+            Asm.derive(2, 6, 4, 5), Asm.narrow(7, 4, 0)));
+        is("a number's top wraps", m, 6, 0xFFFFFFFFL, 0xFFFFFFFFL, 0, 0, 0, 0);
+        is("a number's bounds", m, 7, 0xFFFFFFFFL, 0xFFFFFFFFL, 0xFFFFFFFFL, 0, 0, 0);
     }
 
     private static void perms() {

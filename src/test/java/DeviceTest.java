@@ -5,9 +5,12 @@ public final class DeviceTest {
     public static void main(String[] args) {
         capability();
         inputLimits();
+        inputFullAndReadOnce();
+        readingToNowhere();
         reading();
         writing();
         outputLimits();
+        oneByteTooMany();
         otherWords();
         faults();
         Check.end();
@@ -44,6 +47,29 @@ public final class DeviceTest {
         }
         Check.due("one too many", m.input(0), false);
         Check.due("waiting", m.count(8), 64);
+    }
+
+    private static void inputFullAndReadOnce() {
+        SweptGrants m = with(1, device().put(Asm.loadWord(10, 4, 0), Asm.jal(0, 0)));
+        for (int i = 0; i < 64; i++) {
+            m.input(200 + i % 50);
+        }
+        Check.due("full", m.input(1), false);
+        m.run(3);
+        Check.due("the first, not the refused one", m.register(0, 10, 0), 200);
+        Check.due("63", m.count(8), 63);
+        Check.due("room again", m.input(1), true);
+        Check.due("full again", m.input(1), false);
+    }
+
+    /** c0 stays NULL, but the byte is read. */
+    private static void readingToNowhere() {
+        SweptGrants m = with(1, device().put(Asm.loadWord(0, 4, 0), Asm.loadWord(10, 4, 0)));
+        m.input(6);
+        m.input(7);
+        m.run(4);
+        Check.due("c0", m.register(0, 0, 0), 0);
+        Check.due("the second", m.register(0, 10, 0), 7);
     }
 
     private static void reading() {
@@ -114,6 +140,16 @@ public final class DeviceTest {
         Check.due("first of them", last >>> 48 & 255, next & 255);
         Check.due("behind them", last & 0xFFFFFFFFL, 0);
         Check.due("none", m.fetch(), 0);
+    }
+
+    private static void oneByteTooMany() {
+        Code code = device().put(Asm.storeWord(4, 6, 0), Asm.addi(6, 6, 1), Asm.jal(0, -8));
+        for (int bytes = 499; bytes <= 501; bytes++) {
+            SweptGrants m = with(2, code);
+            m.run(2 + 3 * bytes);
+            Check.due("bytes of " + bytes, m.count(7), Math.min(500, bytes));
+            Check.due("first of " + bytes, m.fetch() >>> 48 & 255, bytes > 500 ? 1 : 0);
+        }
     }
 
     private static long series(int from) {

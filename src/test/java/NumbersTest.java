@@ -79,6 +79,8 @@ public final class NumbersTest {
         register("sub", 0, 32, 3, 5, -2);
         register("sll", 1, 0, 1, 33, 2);
         register("sll", 1, 0, 3, 31, LEAST);
+        register("sll by 32", 1, 0, 3, 32, 3);
+        register("sll by the least", 1, 0, 3, LEAST, 3);
         register("slt", 2, 0, LEAST, MOST, 1);
         register("slt", 2, 0, MOST, LEAST, 0);
         register("slt", 2, 0, 4, 4, 0);
@@ -88,6 +90,9 @@ public final class NumbersTest {
         register("xor", 4, 0, 0x0FF0, 0x00FF, 0x0F0F);
         register("srl", 5, 0, LEAST, 36, 0x08000000);
         register("srl", 5, 0, -1, -1, 1);
+        register("srl by 32", 5, 0, -8, 32, -8);
+        register("sra by 32", 5, 32, -8, 32, -8);
+        register("sra by 31", 5, 32, LEAST, 31, -1);
         register("sra", 5, 32, LEAST, 36, 0xF8000000);
         register("sra", 5, 32, -8, 1, -4);
         register("or", 6, 0, 0x0FF0, 0x00FF, 0x0FFF);

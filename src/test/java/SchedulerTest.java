@@ -12,7 +12,9 @@ public final class SchedulerTest {
         yielding();
         yieldAlone();
         longestAgo();
+        longerThanFifty();
         ended();
+        lastStep();
         noneReady();
         sleepOfOneStep();
         Check.end();
@@ -207,6 +209,35 @@ public final class SchedulerTest {
         dones("fifty", m, 55, 5);
         m.run(1);
         dones("then the other", m, 55, 6);
+    }
+
+    /** One of its priority comes while it has run less than fifty steps, fifty, or many more. */
+    private static void longerThanFifty() {
+        int[][] cases = {{30, 50}, {50, 50}, {51, 50}, {52, 51}, {80, 79}};
+        for (int[] one : cases) {
+            Code code = new Code().number(10, one[0]).go(0).put(Asm.addi(6, 6, 1), Asm.jal(0, -4));
+            int entry = code.here();
+            code.put(Asm.addi(6, 6, 1), Asm.jal(0, -4));
+            Image image = new Image();
+            image.part(0).export(0, 1).export(entry, 1).grant(Image.SERVICE, 3, 0).code(code);
+            SweptGrants m = image.thread(0, 0, 3, 1, 0).thread(0, 1, 3, 1, 0).boot(1);
+            m.run(5 + one[1]);
+            dones("as long as it may", m, 5, one[1]);
+            m.run(1);
+            dones("then the other", m, 6, one[1]);
+        }
+    }
+
+    /** The step in which the last thread ends counts; there is none behind it. */
+    private static void lastStep() {
+        for (int n : new int[] {1, 2, 3, 5000}) {
+            SweptGrants m = Image.alone(new Code().put(Asm.addi(6, 0, 1)).back());
+            Check.due("run " + n, m.run(n), Math.min(2, n));
+            Check.due("time", m.count(0), Math.min(2, n));
+            Check.due("state", m.thread(0, 0), n == 1 ? 0 : 3);
+            Check.due("what is left", m.run(n), n == 1 ? 1 : 0);
+            Check.due("time", m.count(0), 2);
+        }
     }
 
     private static void ended() {

@@ -18,7 +18,9 @@ public final class ServicesTest {
         wake();
         wakeOrder();
         wakeRefused();
+        wakeAtTheTime();
         numberAndRoom();
+        heapOfOneGranule();
         linkBeforeService();
         Check.end();
     }
@@ -380,6 +382,47 @@ public final class ServicesTest {
         m = Image.alone(new Code().take(10, 1).go(0), Image.SERVICE, 5, 0, Image.DEVICE, 3, 0);
         m.run(5);
         is("a device is no memory", m, 0, 10, MINUS_ONE);
+    }
+
+    /** Thread 1, without interrupts, wakes at TIME 12: whose time came then is READY already. */
+    private static void wakeAtTheTime() {
+        for (int steps = 5; steps <= 7; steps++) {
+            Code code = waiting(steps).put(Asm.jal(0, 0));
+            int entry = code.here();
+            code.put(Asm.copy(10, 3)).number(11, 1).go(5).put(Asm.jal(0, 0));
+            Image image = new Image();
+            image.part(1).services().export(0, 1).export(entry, 2).code(code);
+            SweptGrants m = image.thread(0, 0, 2, 1, 0).thread(0, 1, 1, 1, 0).boot(2);
+            m.run(6);
+            Check.due("ready at", m.thread(0, 6), 6 + steps);
+            m.run(6);
+            Check.due("time", m.count(0), 12);
+            is("woken before 6 + " + steps, m, 1, 10, steps == 7 ? 1 : 0, 0, 0, 0, 0, 0);
+            is("answer", m, 0, 10, steps == 7 ? 0 : 2, 0, 0, 0, 0, 0);
+            Check.due("ready", m.thread(0, 0), 0);
+            Check.due("no time", m.thread(0, 6), -1);
+        }
+    }
+
+    /** 1024 bytes, of which the stacks leave 16. */
+    private static void heapOfOneGranule() {
+        int[][] cases = {{0, 0}, {1, 1}, {16, 1}, {17, 0}, {32, 0}, {-1, 0}};
+        for (int[] one : cases) {
+            Code code = new Code().number(10, one[0]).go(0).put(Asm.copy(8, 10))
+                .put(Asm.addi(10, 0, 1)).go(0).put(Asm.copy(9, 10)).go(8).put(Asm.jal(0, 0));
+            Image image = new Image();
+            image.part(0).services().export(0, 1).code(code);
+            image.thread(0, 0, 1, 20, 0).thread(0, 0, 0, 30, 0);
+            SweptGrants m = image.boot(1);
+            String name = "one granule, " + one[0];
+            Check.due(name + ": heap", m.heap(4), 16);
+            m.run(14);
+            is(name, m, 0, 8, one[1] * 1008, one[1] * 1008, one[1] * 1024, one[1] * Asm.DATA, 0, one[1]);
+            Check.due(name + ": the second", m.register(0, 9, 5), 1 - one[1]);
+            is(name + ": nothing is left", m, 0, 10, 0, 0, 0, 0, 0, 0);
+            Check.due(name + ": nothing is left", m.heap(4), 0);
+            Check.due(name + ": objects", m.heap(1), 1);
+        }
     }
 
     private static void numberAndRoom() {

@@ -11,7 +11,9 @@ public final class SweepTest {
         registersOfOthers();
         framesAreSwept();
         freedMeanwhile();
+        freedInTheLastStep();
         allocSleeps();
+        allocAsksForOneOnly();
         allocInTheLastStep();
         allocOfMany();
         allocInVain();
@@ -302,6 +304,61 @@ public final class SweepTest {
         Check.due("revoked", m.tag(m.heap(0) / 16 + 1), 2);
         m.run(40);
         Check.due("nobody asks", m.heap(5), 1);
+    }
+
+    /** It was not in quarantine when the sweep began that ends in this very step. */
+    private static void freedInTheLastStep() {
+        Code code = new Code().number(10, 16).go(0).put(Asm.copy(8, 10)).number(10, 16).go(0)
+            .put(Asm.copy(9, 10), Asm.copy(10, 8)).go(1).go(6);
+        for (int i = 0; i < 12; i++) {
+            code.put(Asm.addi(0, 0, 0));
+        }
+        SweptGrants m = served(code.put(Asm.copy(10, 9)).go(1).put(Asm.jal(0, 0)), 1);
+        m.run(19 + 15);
+        Check.due("last four", m.heap(6), 60);
+        Check.due("the second is an object", m.heap(1), 1);
+        m.run(1);
+        Check.due("ended", m.heap(5), 1);
+        Check.due("freed", m.heap(1), 0);
+        Check.due("in quarantine", m.heap(3), 16);
+        Check.due("granule of the first", m.tag(m.heap(0) / 16), 0);
+        Check.due("granule of the second", m.tag(m.heap(0) / 16 + 1), 2);
+        Check.due("c9", m.register(0, 9, 5), 0);
+    }
+
+    /**
+     * Thread 1 frees most of the heap at 24, so that a sweep begins; thread 0 asks for room at the
+     * next step, or one later, and sleeps; then thread 1 frees the rest. No other sweep is due.
+     */
+    private static void allocAsksForOneOnly() {
+        for (int steps = 17; steps <= 18; steps++) {
+            int heap = twoFrees(steps, 16).heap(4);
+            SweptGrants m = twoFrees(steps, heap - 16);
+            m.run(24);
+            Check.due("begun", m.heap(6), 0);
+            m.run(steps - 16);
+            Check.due("sleeps", m.thread(0, 0), 1);
+            Check.due("for no time", m.thread(0, 6), -1);
+            m.run(40 - 24 - (steps - 16));
+            Check.due("ended", m.heap(5), 1);
+            Check.due("has it", m.register(0, 10, 1), m.heap(0));
+            Check.due("in quarantine", m.heap(3), 16);
+            m.run(60);
+            Check.due("no other begins", m.heap(6), -1);
+            Check.due("sweeps", m.heap(5), 1);
+        }
+    }
+
+    /** c10 is 2 behind a WAIT whose time is over: so many bytes thread 0 asks for. */
+    private static SweptGrants twoFrees(int steps, int bytes) {
+        Code code = new Code().take(8, 0).put(Asm.copy(10, 3)).number(12, steps).go(4)
+            .put(Asm.jalr(1, 8, 0), Asm.jal(0, 0));
+        int entry = code.here();
+        code.number(10, bytes).go(0).put(Asm.copy(8, 10)).number(10, 16).go(0).put(Asm.copy(9, 10),
+            Asm.copy(10, 8)).go(1).put(Asm.copy(10, 9)).go(1).put(Asm.jal(0, 0));
+        Image image = new Image();
+        image.part(1).services().export(0, 1).export(entry, 1).code(code);
+        return image.thread(0, 0, 2, 1, 0).thread(0, 1, 1, 1, 0).boot(1);
     }
 
     private static int wholeHeap(int words) {
