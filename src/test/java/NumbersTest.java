@@ -14,6 +14,7 @@ public final class NumbersTest {
         zeroRegister();
         resultsAreNumbers();
         illegal();
+        illegalComesFirst();
         Check.end();
     }
 
@@ -244,6 +245,16 @@ public final class NumbersTest {
         }
         for (int k = 0; k < 32; k++) {
             registersAbove(k);
+        }
+    }
+
+    /** c4 is NULL and would be fault 1; the next one is out of bounds. */
+    private static void illegalComesFirst() {
+        int[] words = {Asm.load(6, 7, 4, 0), Asm.load(7, 7, 4, 0), Asm.load(2, 16, 4, 0),
+            Asm.store(4, 4, 7, 0), Asm.store(2, 4, 16, 0), Asm.i(0x67, 1, 7, 4, 0),
+            Asm.jalr(16, 4, 0), Asm.load(6, 7, 3, -4), Asm.store(7, 3, 7, 1)};
+        for (int word : words) {
+            legal("ahead of other faults", word, false);
         }
     }
 

@@ -8,6 +8,9 @@ public final class SchedulerTest {
         interruptsOff();
         wakesAboveTheCurrent();
         sleepersAboveOff();
+        offButYields();
+        offButSleeps();
+        onAgain();
         sliceBeginsAnew();
         yielding();
         yieldAlone();
@@ -130,6 +133,52 @@ public final class SchedulerTest {
         Check.due("ready at", m.thread(0, 6), -1);
         m.run(100);
         dones("the lower one stays", m, 5, 110);
+    }
+
+    private static void offButYields() {
+        Image image = new Image();
+        image.part(0).export(0, 2).grant(Image.SERVICE, 2, 0).code(new Code().go(0)
+            .put(Asm.jal(0, -12)));
+        SweptGrants m = image.thread(0, 0, 2, 1, 0).thread(0, 0, 2, 1, 0).boot(1);
+        m.run(3);
+        Check.due("none behind YIELD", m.count(1), -1);
+        m.run(1);
+        Check.due("the other", m.count(1), 1);
+    }
+
+    private static void offButSleeps() {
+        Image image = new Image();
+        image.part(0).export(0, 2).export(5, 1).grant(Image.SERVICE, 3, 0).code(new Code()
+            .number(10, 10).go(0).put(Asm.jal(0, 0)));
+        SweptGrants m = image.thread(0, 0, 2, 1, 0).thread(0, 1, 1, 1, 0).boot(1);
+        m.run(6);
+        Check.due("the lower one", m.count(1), 1);
+        m.run(8);
+        dones("while it sleeps", m, 5, 9);
+        m.run(1);
+        dones("and then again", m, 6, 9);
+    }
+
+    /** Off for 65 steps, then on by an ENTRY: what was due all the while comes in the next step. */
+    private static void onAgain() {
+        for (int above = 0; above <= 1; above++) {
+            Code code = new Code().put(Asm.addi(6, 0, 30), Asm.addi(6, 6, -1), Asm.branch(1, 6, 0, -4),
+                Asm.auipc(4, 0), Asm.move(4, 4, 16), Asm.inspect(12, 4, 4), Asm.jalr(0, 4, 0),
+                Asm.jal(0, 0));
+            int entry = code.here();
+            code.number(10, 10).go(0).put(Asm.jal(0, 0));
+            Image image = new Image();
+            image.part(0).export(0, 2).export(entry, 1).export(entry - 1, 1)
+                .grant(Image.SERVICE, 3, 0).code(code);
+            SweptGrants m = image.thread(0, 0, 2, 1, 0).thread(0, 2 - above, 2 + above, 1, 0).boot(1);
+            int before = 5 * above;
+            m.run(before + 65);
+            dones("off", m, 65, before);
+            Check.due("on", m.thread(0, 3), 1);
+            Check.due("current", m.count(1), 0);
+            m.run(1);
+            dones("the other", m, 65, before + 1);
+        }
     }
 
     /** A thread that was sent away begins its fifty steps anew. */
