@@ -12,6 +12,7 @@ public final class SweepTest {
         framesAreSwept();
         freedMeanwhile();
         freedInTheLastStep();
+        freedBehindTheSweeper();
         allocSleeps();
         allocAsksForOneOnly();
         allocInTheLastStep();
@@ -324,6 +325,31 @@ public final class SweepTest {
         Check.due("granule of the first", m.tag(m.heap(0) / 16), 0);
         Check.due("granule of the second", m.tag(m.heap(0) / 16 + 1), 2);
         Check.due("c9", m.register(0, 9, 5), 0);
+    }
+
+    /** The second object lies in four granules of globals and is freed at some step of the sweep. */
+    private static void freedBehindTheSweeper() {
+        for (int nops = 0; nops < 12; nops++) {
+            Code code = new Code().number(10, 16).go(0).put(Asm.copy(8, 10)).number(10, 16).go(0)
+                .put(Asm.copy(9, 10), Asm.copy(10, 8));
+            for (int i = 0; i < 4; i++) {
+                code.put(Asm.storeCap(3, 9, 16 * i));
+            }
+            code.go(1).go(6);
+            for (int i = 0; i < nops; i++) {
+                code.put(Asm.addi(0, 0, 0));
+            }
+            SweptGrants m = served(code.put(Asm.copy(10, 9)).go(1).put(Asm.jal(0, 0)), 1);
+            m.run(code.here() - 2);
+            int next = m.heap(6);
+            Check.due("step", next, 4 * (nops + 3));
+            m.run(60);
+            Check.due("sweeps", m.heap(5), 1);
+            int globals = m.compartment(0, 2) / 16;
+            for (int g = globals; g < globals + 4; g++) {
+                Check.due("granule " + g + " at " + next, m.tag(g), g < next ? 1 : 0);
+            }
+        }
     }
 
     /**
